@@ -37,6 +37,7 @@ public final class SpareWell {
     private final State trial = new State();
     private boolean hasImage;
     private final Needs needs = new Needs();
+    private final Judge judge = new Judge();
     private final Sets sets = new Sets();
     private final Giving giving = new Giving();
     private final Game match = new Game();
@@ -145,13 +146,13 @@ public final class SpareWell {
     // ---- acts ----
 
     public int spared() {
-        bindNow();
+        sitOver(now);
         return sparedBits();
     }
 
     public int go(int person) throws NoSuchElementException {
         mustBePerson(person);
-        bindNow();
+        sitOver(now);
         if (!canBeSpared(now, person, now.gone)) {
             return refuseAct();
         }
@@ -255,7 +256,7 @@ public final class SpareWell {
         if ((set & now.gone) != 0) {
             throw new IllegalArgumentException("somebody of the set is gone");
         }
-        bindNow();
+        sitOver(now);
         long[] ordersOf = sets.row;
         ordersOf[0] = 1;
         for (int part = 1; part <= set; part++) {
@@ -363,7 +364,7 @@ public final class SpareWell {
         int turned = seed;
         for (int i = 0; i < n; i++) {
             turned = turned * 1103515245 + 12345;
-            bindMonth(trial, trial.monthOfYear());
+            sitOver(trial);
             if (told.people > 0 && sendOrCall((turned >>> 16 & 0x7fff) % told.people)) {
                 went++;
             }
@@ -466,7 +467,7 @@ public final class SpareWell {
         if (what < 0 || what > 1) {
             throw new NoSuchElementException("no such thing of a clash");
         }
-        bindNow();
+        sitOver(now);
         int spared = sparedBits();
         int couples = 0;
         int first = NONE;
@@ -585,6 +586,12 @@ public final class SpareWell {
         bindMonth(now, now.monthOfYear());
     }
 
+    /** Binds the needs to the state's month, and lets the judge sit over it. */
+    private void sitOver(State state) {
+        bindMonth(state, state.monthOfYear());
+        judge.sit(state);
+    }
+
     private boolean allDoneNow() {
         bindNow();
         return needs.isDoneBy(atHome());
@@ -595,14 +602,14 @@ public final class SpareWell {
         return sets.mostOf(needs, told.people);
     }
 
-    /** All of being spared but whether the work is done without him, were these gone. */
+    /** All of being spared but whether they and he can be gone, were these gone. */
     private boolean mayGo(State state, int person, int gone) {
         return (gone >> person & 1) == 0
                 && state.heroMonths(person) == 0
-                && told.law.holdsFor(told, state, person, gone);
+                && judge.holdsFor(told, state, person, gone);
     }
 
-    /** The needs must be bound to the state's month. */
+    /** The judge must sit over the state. */
     private boolean canBeSpared(State state, int person, int gone) {
         return needs.fits(gone | 1 << person) && mayGo(state, person, gone);
     }
@@ -1047,9 +1054,21 @@ public final class SpareWell {
                 return;
             }
             for (int town = 0; town < TOWNS; town++) {
-                int many = weighTown(state, town, present);
-                for (int i = 1; i < many; i++) {
-                    addRule(able[i], Integer.bitCount(able[i]) - asked[i]);
+                addTownRules(weighTown(state, town, present) - 1);
+            }
+        }
+
+        /** By the sets of skills that are weighed, of which the last one has all skills that are asked for. */
+        private void addTownRules(int whole) {
+            int allowedOfWhole = Integer.bitCount(able[whole]) - asked[whole];
+            if (whole > 0) {
+                addRule(able[whole], allowedOfWhole);
+            }
+            for (int i = 1; i < whole; i++) {
+                int many = Integer.bitCount(able[i]) - asked[i];
+                // a group of the whole one that may lose as many holds nobody back whom that one doesn't
+                if (many < allowedOfWhole) {
+                    addRule(able[i], many);
                 }
             }
         }
@@ -1340,7 +1359,7 @@ public final class SpareWell {
         }
     }
 
-    /** A rule as cells, what it works on ahead of the working; without cells it always holds. */
+    /** A rule as cells, what a cell works on ahead of it; without cells it always holds. */
     private static final class Law {
         static final int STRENGTH = 0;
         static final int SKILL_COUNT = 1;
@@ -1349,7 +1368,7 @@ public final class SpareWell {
         static final int MONTH = 4;
         static final int HERO = 5;
         static final int TOWN = 6;
-        private static final int VALUES = 7;
+        static final int VALUES = 7;
         static final int PLUS = 7;
         static final int MINUS = 8;
         static final int TIMES = 9;
@@ -1361,14 +1380,9 @@ public final class SpareWell {
         static final int EITHER = 15;
         /** From here on a cell is a number. */
         static final int NUMBER = 16;
-        /** Six expressions, each with five workings open at most, and one number more: 31. */
-        private static final int MAX_STACK = 32;
 
         int size;
         private final int[] cells = new int[MAX_TEXT];
-        private final int[] values = new int[VALUES];
-        private final int[] stack = new int[MAX_STACK];
-        private int top;
 
         void put(int cell) {
             if (size < cells.length) {
@@ -1377,46 +1391,7 @@ public final class SpareWell {
             }
         }
 
-        /** Were these gone. */
-        boolean holdsFor(Land land, State state, int person, int gone) {
-            if (size == 0) {
-                return true;
-            }
-            look(land, state, person, gone);
-            top = 0;
-            for (int i = 0; i < size; i++) {
-                step(cells[i]);
-            }
-            return pop() != 0;
-        }
-
-        private void look(Land land, State state, int person, int gone) {
-            int bit = 1 << person;
-            int home = state.peopleIn(state.town[person]) & ~gone | bit;
-            values[STRENGTH] = land.strength[person];
-            values[SKILL_COUNT] = Integer.bitCount(state.skills[person]);
-            values[GONE] = Integer.bitCount(gone & ~bit);
-            values[HOME] = Integer.bitCount(home);
-            values[MONTH] = state.monthOfYear();
-            values[HERO] = state.heroMonths(person) > 0 ? 1 : 0;
-            values[TOWN] = state.town[person];
-        }
-
-        private void step(int cell) {
-            if (cell >= NUMBER) {
-                push(cell - NUMBER);
-            } else if (cell < VALUES) {
-                push(values[cell]);
-            } else if (cell == NOT) {
-                push(pop() == 0 ? 1 : 0);
-            } else {
-                int right = pop();
-                int left = pop();
-                push(join(cell, left, right));
-            }
-        }
-
-        private static int join(int cell, int left, int right) {
+        static int join(int cell, int left, int right) {
             switch (cell) {
                 case PLUS: return left + right;
                 case MINUS: return left - right;
@@ -1427,6 +1402,77 @@ public final class SpareWell {
                 case BOTH: return left != 0 && right != 0 ? 1 : 0;
                 default: return left != 0 || right != 0 ? 1 : 0;
             }
+        }
+    }
+
+    /**
+     * Says for whom the law holds, in one state, whoever is gone. Of who is gone the law sees two numbers
+     * alone, so an answer is kept by them: the orders of a large set ask for the same few very often.
+     */
+    private static final class Judge {
+        private static final int NUMBERS = MAX_PEOPLE + 1;
+        /** Six expressions, each with five workings open at most, and one number more: 31. */
+        private static final int MAX_STACK = 32;
+
+        private int sitting;
+        private final int[] inTown = new int[TOWNS];
+        /** Twice the sitting, and 1 if the law holds. */
+        private final int[] kept = new int[MAX_PEOPLE * NUMBERS * NUMBERS];
+        private final int[] values = new int[Law.VALUES];
+        private final int[] stack = new int[MAX_STACK];
+        private int top;
+
+        /** What was kept of another state counts no more. */
+        void sit(State state) {
+            sitting++;
+            for (int town = 0; town < TOWNS; town++) {
+                inTown[town] = state.peopleIn(town);
+            }
+        }
+
+        /** In the state of this sitting, were these gone. */
+        boolean holdsFor(Land land, State state, int person, int gone) {
+            if (land.law.size == 0) {
+                return true;
+            }
+            int bit = 1 << person;
+            int away = Integer.bitCount(gone & ~bit);
+            int home = Integer.bitCount(inTown[state.town[person]] & ~gone | bit);
+            int place = (person * NUMBERS + away) * NUMBERS + home;
+            if (kept[place] >> 1 != sitting) {
+                values[Law.GONE] = away;
+                values[Law.HOME] = home;
+                look(land, state, person);
+                kept[place] = 2 * sitting + (workOut(land.law) != 0 ? 1 : 0);
+            }
+            return (kept[place] & 1) != 0;
+        }
+
+        private void look(Land land, State state, int person) {
+            values[Law.STRENGTH] = land.strength[person];
+            values[Law.SKILL_COUNT] = Integer.bitCount(state.skills[person]);
+            values[Law.MONTH] = state.monthOfYear();
+            values[Law.HERO] = state.heroMonths(person) > 0 ? 1 : 0;
+            values[Law.TOWN] = state.town[person];
+        }
+
+        private int workOut(Law law) {
+            top = 0;
+            for (int i = 0; i < law.size; i++) {
+                int cell = law.cells[i];
+                if (cell >= Law.NUMBER) {
+                    push(cell - Law.NUMBER);
+                } else if (cell >= 0 && cell < Law.VALUES) {
+                    push(values[cell]);
+                } else if (cell == Law.NOT) {
+                    push(pop() == 0 ? 1 : 0);
+                } else {
+                    int right = pop();
+                    int left = pop();
+                    push(Law.join(cell, left, right));
+                }
+            }
+            return pop();
         }
 
         private void push(int number) {
@@ -1519,7 +1565,7 @@ public final class SpareWell {
 
         private int endOfRow(char low, char high) {
             int at = start;
-            while (at < length && isWithin(bytes[at], low, high)) {
+            while (at < length && bytes[at] >= low && bytes[at] <= high) {
                 at++;
             }
             return at;
