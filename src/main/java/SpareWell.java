@@ -281,7 +281,6 @@ public final class SpareWell {
         mustBeTown(town);
         mustBeSkill(skill);
         int before = mostNow();
-        needs.gather(told, now.monthOfYear());
         needs.addPieces(town, skill, 1);
         needs.bind(told, now, told.everybody());
         return before - sets.mostOf(needs, told.people);
@@ -1526,7 +1525,6 @@ public final class SpareWell {
             kind = NOTHING;
             end = 0;
             fault = 0;
-            place = NONE;
             next();
         }
 
@@ -1539,9 +1537,8 @@ public final class SpareWell {
                 start++;
             }
             if (start >= length) {
-                start = length;
-                end = length;
                 kind = END;
+                end = start;
             } else if (isWithin(bytes[start], 'a', 'z')) {
                 kind = WORD;
                 end = endOfRow('a', 'z');

@@ -136,6 +136,12 @@ public final class PromisesTest {
         due("count(5)", well.count(5), 2);
         well.back(1);
         due("count(6)", well.count(6), 2);
+        well.months(2);
+        due("count(6) in his last month", well.count(6), 2);
+        well.months(1);
+        due("count(6) then", well.count(6), 0);
+        well.undo();
+        well.undo();
         due("count(9)", well.count(9), 3);
         well.feed(0, 0, 0, 0, 0);
         due("count(11)", well.count(11), 20);
@@ -401,6 +407,28 @@ public final class PromisesTest {
         }
         due("none is left", well.undo(), -1);
         due("the first five stay", well.count(4), 10);
+        SpareWell mixed = Told.land("one 0 1 0;one 1 1 1;one 2 1 2;hero 0;");
+        mixed.months(1);
+        mixed.go(2);
+        mixed.move(0, 1);
+        mixed.learn(0, 1, 1);
+        for (int i = 0; i < 19; i++) {
+            mixed.go(i % 2);
+            mixed.back(i % 2);
+        }
+        due("42 acts, two fell out", mixed.count(9), 40);
+        for (int i = 0; i < 38; i++) {
+            mixed.undo();
+            due("who is gone, undone " + i, mixed.count(5), i % 2 == 1 ? 4 : 4 | 1 << (18 - i / 2) % 2);
+        }
+        due("he has learnt", mixed.one(0, 2), 3);
+        due("undo learn", mixed.undo(), 1);
+        due("he hasn't", mixed.one(0, 2), 1);
+        due("undo move", mixed.undo(), 0);
+        due("he is where he was", mixed.one(0, 0), 0);
+        due("no more", mixed.undo(), -1);
+        due("gone still", mixed.count(5), 4);
+        due("month still", mixed.count(4), 1);
     }
 
     // promises 15, 16
@@ -515,6 +543,14 @@ public final class PromisesTest {
         SpareWell twelve = Told.land("one 0 1 0;".repeat(12));
         due("twelve", twelve.orders(4095), 479001600);
         due("eleven", twelve.orders(4094), 39916800);
+        StringBuilder row = new StringBuilder();
+        for (int i = 0; i < 12; i++) {
+            row.append("one 0 ").append(Math.min(i, 9)).append(" 0;");
+        }
+        due("by strength, then three in any order",
+                Told.land(row + "law gone=strength or 9<gone and home<3;").orders(4095), 6);
+        due("the last one stays", Told.land(row + "law 1<home and gone<12;").orders(4095), 0);
+        due("all but one", Told.land(row + "law 1<home and gone<12;").orders(2047), 39916800);
     }
 
     // promise 21
@@ -745,6 +781,11 @@ public final class PromisesTest {
         due("it can't be", well.recalled(9), -1);
         due("recalled(-1)", Told.outcome(() -> well.recalled(-1)), IAE);
         due("recalled(12)", Told.outcome(() -> well.recalled(12)), IAE);
+        SpareWell all = Told.land("one 0 1 0;".repeat(12) + "work 0 0 1 1 4;".repeat(3));
+        for (int i = 0; i < 12; i++) {
+            all.go(i);
+        }
+        due("all twelve", all.recalled(1), 4095);
         well.months(11);
         due("four months on is month 3", well.recalled(4), 3);
         well.undo();
