@@ -271,6 +271,11 @@ public final class PromisesTest {
         for (String law : all) {
             due("law " + law, lawSpares(law), 7);
         }
+        String deep = "0 or 1 and 0<0+1*strength";
+        for (int i = 0; i < 5; i++) {
+            deep = "0 or 1 and 0<0+1*(" + deep + ")";
+        }
+        due("as deep as can be", lawSpares(deep), 5);
         String[] nobody = {"0", "not 1", "not not 0", "5/0", "3=4", "4<4", "1 and 0", "0 or 0", "2*3=5",
             "not 1 or 0", "0 and 1 or 0", "7/2-3", "(5 or 3)=5", "(not 0)=2", "not 7"};
         for (String law : nobody) {
