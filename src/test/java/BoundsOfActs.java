@@ -65,6 +65,15 @@ final class BoundsOfActs {
         isDone(P.repeat(12) + "work 0 0 0 0 4;".repeat(3), true);
         isDone(P.repeat(12) + "work 0 0 0 0 4;".repeat(3) + "work 0 0 0 0 1;", false);
         isDone(P.repeat(11) + "one 1 1 0;" + "work 0 0 0 0 4;".repeat(3), false);
+        StringBuilder each = new StringBuilder();
+        for (int i = 0; i < 12; i++) {
+            each.append("one ").append(i / 8).append(" 1 ").append(i % 8).append(";work ").append(i / 8).append(' ')
+                    .append(i % 8).append(" 0 0 1;");
+        }
+        isDone(each.toString(), true);
+        isDone(each.toString().replace("one 0 1 7;", "one 0 1 6;"), false);
+        isDone(each.toString().replace("one 1 1 3;", "one 1 1 2;"), false);
+        isDone(each.toString().replace("one 0 1 7;", "one 0 1 0;").replace("one 0 1 0;", "one 0 1 0 7;"), true);
         says("(PEOPLE are in the TOWN to which they moved last.)");
         SpareWell well = Told.land(P + "work 2 0 0 0 1;");
         well.move(0, 2);

@@ -123,6 +123,7 @@ final class BoundsOfCalls {
         s.due("nothing of it", well.land(0), 0);
         s.due("nobody", well.count(0), 0);
         s.due("the tape is empty", well.count(11), 0);
+        tellsTheSame();
         s.says(3, " or the FAULT (all stays).");
         SpareWell stays = Told.land(Told.FIVE);
         stays.go(2);
@@ -159,6 +160,28 @@ final class BoundsOfCalls {
         s.due("status 0", stays.count(12), 5);
         s.due("status 1", stays.count(13), 1);
         s.due("status 2", stays.count(14), 2);
+    }
+
+    /** Nothing of the lands told before counts. */
+    private void tellsTheSame() {
+        String text = "one 0 1 0;one 0 2 1;one 1 3 0 7;work 0 0 1 1 1;work 1 7 1 2 2;bond 0 1;bond 2 1;hero 5;law"
+                + " strength;";
+        String first = state(Told.land(text));
+        SpareWell well = new SpareWell();
+        for (int i = 0; i < 5; i++) {
+            s.due("told again", Told.tell(well, text), 0);
+            s.due("is all anew", state(well), first);
+            well.go(2);
+            well.back(2);
+            well.learn(0, 1, 1);
+            well.move(1, 3);
+            well.see(1, 1);
+            well.months(1);
+        }
+        s.due("a smaller one", Told.tell(well, P), 0);
+        s.due("has nothing of it", state(well), state(Told.land(P)));
+        s.due("and none", Told.tell(well, ""), 0);
+        s.due("is as a new object", state(well), state(new SpareWell()));
     }
 
     private void landThrows() {
@@ -220,6 +243,12 @@ final class BoundsOfCalls {
         well.back(0);
         s.due("all are there", well.count(7), 1);
         s.due("two heroes", well.count(6), 2049);
+        well.months(21);
+        s.due("the twelfth in his last month", well.count(6), 2049);
+        well.months(1);
+        s.due("he is none", well.count(6), 1);
+        well.undo();
+        well.undo();
         well.months(3);
         s.due("four pieces", well.count(8), 4);
         s.says(5, " 9 ACTS that are kept, 10 SEEN, 11 bytes of the tape, 12 to 14 STATUS 0 to 2,");
@@ -264,6 +293,10 @@ final class BoundsOfCalls {
         well.go(0);
         s.due("gone", well.one(0, 3), 1);
         s.due("the others not", well.one(1, 3) + well.one(2, 3), 0);
+        SpareWell twelve = Told.land(P.repeat(12));
+        twelve.go(11);
+        s.due("the twelfth", twelve.one(11, 3), 1);
+        s.due("the eleventh not", twelve.one(10, 3), 0);
         s.says(6, " 4 of how many MONTHS, this one too, he is a HERO still (0: he is none),");
         s.due("none while he is gone", well.one(0, 4), 0);
         well.back(0);
@@ -279,6 +312,10 @@ final class BoundsOfCalls {
         s.due("with one", well.one(1, 5), 1);
         s.due("told the other way round", well.one(2, 5), 1);
         s.due("with nobody", Told.land(P).one(0, 5), 0);
+        SpareWell apart = Told.land(P.repeat(12) + "bond 10 11;");
+        s.due("the eleventh with the twelfth", apart.one(10, 5), 2048);
+        s.due("the twelfth with the eleventh", apart.one(11, 5), 1024);
+        s.due("the first with nobody", apart.one(0, 5), 0);
         s.says(6, "NoSuchElementException: no such PERSON (as everywhere), what.");
         for (int person : Sentences.beside(0, 2)) {
             s.throwsOne(NSE, "one(" + person + ", 0)", () -> well.one(person, 0));
@@ -485,6 +522,7 @@ final class BoundsOfCalls {
         s.due("one", well.undo(), 1);
         s.due("none", well.undo(), 0);
         s.due("the month", well.count(4), 0);
+        eachUndone();
         s.says(14, "NONE: there is none.");
         String before = shown(well);
         s.due("none", well.undo(), -1);
@@ -494,6 +532,29 @@ final class BoundsOfCalls {
         well.months(25);
         well.back(0);
         s.due("what was refused is no act", well.undo(), -1);
+    }
+
+    /** Undoing leaves all as it was ahead of the act. */
+    private void eachUndone() {
+        SpareWell well = Told.land("one 0 1 0;one 0 2 1;one 1 3 0 7;one 0 4 5;work 0 0 8 8 1;bond 0 1;hero 2;");
+        String[] before = new String[12];
+        for (int i = 0; i < before.length; i++) {
+            before[i] = state(well);
+            switch (i) {
+                case 0, 7 -> well.go(3);
+                case 2, 9 -> well.back(3);
+                case 1, 4, 6, 10 -> well.months(i);
+                case 3 -> well.learn(3, 1, 1);
+                case 5 -> well.move(3, 1);
+                case 8 -> well.go(0);
+                default -> well.move(3, 3);
+            }
+            s.due("act " + i, well.count(9), i + 1);
+        }
+        for (int i = before.length - 1; i >= 0; i--) {
+            s.due("undone", well.undo(), i);
+            s.due("all is as it was ahead of act " + i, state(well), before[i]);
+        }
     }
 
     private void can() {

@@ -90,6 +90,10 @@ final class BoundsOfSets {
         s.due("eleven months behind it", well.strongest(11, 2, 0), 3);
         s.due("twelve", well.strongest(12, 2, 0), -1);
         s.due("all twelve", Told.land("one 0 9 0;".repeat(12)).strongest(12, 12, 1), 108);
+        SpareWell six = Told.land("one 0 0 0;".repeat(6) + "one 0 9 0;".repeat(6));
+        s.due("the last six of twelve", six.strongest(12, 6, 0), 4032);
+        s.due("the last seven", six.strongest(12, 7, 0), 4033);
+        s.due("their strength", six.strongest(12, 7, 1), 54);
         SpareWell like = Told.land("one 0 2 0;one 0 4 0;one 0 3 0;one 0 3 0;bond 1 2;bond 1 3;");
         s.due("4 and 2, or 3 and 3: the least", like.strongest(1, 2, 0), 3);
         s.due("of just so many, though fewer are as strong", Told.land("one 0 0 0;one 0 5 0;").strongest(1, 2, 0), 3);
@@ -143,6 +147,11 @@ final class BoundsOfSets {
         s.due("by the law one after the other",
                 Told.land("one 0 0 0;one 0 1 0;one 0 2 0;law gone=strength;").orders(7), 1);
         s.due("the law lets one go", Told.land(P + P + "law gone=0;").orders(3), 0);
+        s.due("the law lets one of them go, and first", Told.land("one 0 1 0;one 1 1 0;law gone=0 and"
+                + " town=1;").orders(3), 0);
+        s.due("twelve by a law", Told.land(P.repeat(12) + "law gone+home=12;").orders(4095), 479001600);
+        s.due("the strong one first, then one of town 1, then any", Told.land("one 1 1 0;".repeat(5) + P.repeat(6)
+                + "one 0 9 0;law gone=0 and strength=9 or gone=1 and town or 1<gone;").orders(4095), 5 * 3628800);
         s.due("the law looks at who is at home", Told.land("one 0 1 0;one 0 2 0;law home=strength;").orders(3), 1);
         SpareWell well = Told.land(P + P + P + "one 0 1 1;bond 0 1;work 0 0 0 0 1;hero 1;");
         s.due("bound ones", well.orders(3), 0);

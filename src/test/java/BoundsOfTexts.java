@@ -177,6 +177,13 @@ final class BoundsOfTexts {
         s.faulty("onework 0 1 0;", 1, 0);
         s.faulty("on e 0 1 0;", 1, 0);
         s.faulty("o", 1, 0);
+        String[] lines = {"one 0 1 0;", "work 0 0 0 0 1;", "bond 0 1;", "hero 1;", "law 1;"};
+        for (String line : lines) {
+            s.good(P + P + line);
+            for (int i = 0; i < line.indexOf(' '); i++) {
+                s.faulty(P + P + line.substring(0, i) + "x" + line.substring(i + 1), 1, 20);
+            }
+        }
         s.faulty("hero 1`;", 1, 6);
         s.faulty("hero 1{;", 1, 6);
         s.faulty("HERO 1;", 1, 0);
@@ -286,6 +293,16 @@ final class BoundsOfTexts {
         Told.feed(well, "hero 1;hero 2;      ");
         s.due("only n bytes are the text", well.land(6), 1);
         s.due("it ends there", well.fault(), 6);
+        Told.feed(well, "hero 12;");
+        s.due("a number ends with the text", well.land(6), 1);
+        s.due("it ends there", well.fault(), 6);
+        Told.feed(well, "hero 12;");
+        s.due("a word ends with the text", well.land(3), 1);
+        s.due("it is none", well.fault(), 0);
+        s.faulty("law " + "1+".repeat(347) + "12", 1, 700);
+        s.faulty("law " + "1+".repeat(346) + "town", 1, 700);
+        s.faulty("law " + "1+".repeat(347) + "or", 3, 698);
+        s.faulty(" ".repeat(699) + "o", 1, 699);
     }
 
     private void tooMuch() {

@@ -82,6 +82,10 @@ final class BoundsOfTowns {
             all.see(skill == 0 ? 1 : 0, skill);
         }
         s.due("eight secrets, eight teachers", all.secret(1), 255);
+        SpareWell each = Told.land("one 0 1 0;one 0 1 1;");
+        each.see(0, 1);
+        each.see(1, 0);
+        s.due("everybody", each.secret(1), 3);
     }
 
     private void rest(String text, int many, int first) {
@@ -230,6 +234,9 @@ final class BoundsOfTowns {
         well.months(1);
         s.due("nobody", well.needed(), 0);
         s.due("all twelve", Told.land(P.repeat(12) + "work 0 0 0 0 4;".repeat(3)).needed(), 4095);
+        SpareWell bound = Told.land(P + P + "bond 0 1;");
+        bound.go(0);
+        s.due("bonds count for nothing", bound.needed(), 0);
         says(" nobody, if it isn't with them.");
         SpareWell undone = Told.land(P + "work 0 0 0 0 1;work 0 1 0 0 1;");
         s.due("undone anyhow", undone.needed(), 0);
@@ -273,6 +280,9 @@ final class BoundsOfTowns {
         s.due("so 1 the first", row.doer(0), 1);
         row.months(1);
         s.due("nobody can", row.doer(0), -1);
+        SpareWell ahead = Told.land("one 0 1 5;one 0 1 0 1;one 0 1 0;work 0 0 0 0 1;work 0 1 0 0 1;");
+        s.due("1 could, but must do the second", ahead.doer(0), 2);
+        s.due("he does", ahead.doer(1), 1);
         SpareWell four = Told.land(P.repeat(5) + "work 0 0 0 0 4;");
         s.due("the last of four", four.doer(3), 3);
         SpareWell half = Told.land(P + "work 0 0 0 0 1;work 0 1 0 0 1;");
@@ -300,6 +310,11 @@ final class BoundsOfTowns {
         well.back(2);
         s.due("one is at home", well.recalled(11), 0);
         s.due("so one other", well.recalled(10), 1);
+        SpareWell twelve = Told.land(P.repeat(12) + "work 0 0 1 1 4;".repeat(3));
+        for (int person = 0; person < 12; person++) {
+            twelve.go(person);
+        }
+        s.due("all twelve", twelve.recalled(1), 4095);
         says("ALL MONTHS: THE MOST of each of so many MONTHS (0 to 24) from this one on, together");
         SpareWell all = Told.land(P + P + "work 0 0 1 1 1;work 0 0 3 3 3;");
         s.due("no months", all.allMonths(0), 0);
@@ -368,6 +383,7 @@ final class BoundsOfTowns {
         s.due("only one way round", Told.land("one 0 1 0;one 0 2 0;law gone=0 or strength=2;").clash(0), 0);
         s.due("either way round by the law", Told.land(P + P + "law gone=0;").clash(1), 1);
         s.due("one can't be spared anyhow", Told.land("one 0 1 0;one 0 2 0;bond 0 1;law strength=2;").clash(0), 0);
+        s.due("nor the other one", Told.land("one 0 2 0;one 0 1 0;bond 0 1;law strength=2;").clash(0), 0);
         s.due("all of twelve", Told.land(P.repeat(12) + "law gone=0;").clash(0), 66);
     }
 

@@ -52,8 +52,8 @@ public final class RulesTest {
         for (int i = 0; i < lines.length; i++) {
             String line = lines[i];
             classes += line.matches(" *(private static|public) final class .*") ? 1 : 0;
-            if (line.matches(" {4,8}(public|private|static|int|long|boolean|void|\\w+)\\b.*\\(.*") && !line.contains(";")
-                    && !line.contains(" = ")) {
+            if (line.matches(" {4,8}(public|private|static|int|long|boolean|void|\\w+)\\b.*\\(.*")
+                    && !line.contains(";") && !line.contains(" = ")) {
                 start = i;
             }
             if (start >= 0 && line.matches(" {4}( {4})?\\}") && indent(line) == indent(lines[start])) {
