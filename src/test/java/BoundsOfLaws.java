@@ -33,6 +33,7 @@ final class BoundsOfLaws {
         grammar();
         workings();
         values();
+        looksAnew();
     }
 
     private void grammar() {
@@ -136,5 +137,26 @@ final class BoundsOfLaws {
         SpareWell moved = Told.land("one 0 1 0;law town=3;");
         moved.move(0, 3);
         s.due("to which he moved", moved.spared(), 1);
+    }
+
+    /** What the law said of somebody once counts for nothing later, however many calls lie between. */
+    private void looksAnew() {
+        says("LAW: a rule.");
+        for (int between = 0; between < 40; between++) {
+            s.due("first not, then, " + between + " calls between", laterSpared("month", between), 3);
+            s.due("first, then not, " + between + " calls between", laterSpared("not month", between), 0);
+        }
+    }
+
+    private static int laterSpared(String law, int between) {
+        SpareWell well = Told.land("one 0 1 0;one 0 1 0;law " + law + ";");
+        well.spared();
+        well.move(1, 1);
+        for (int i = 0; i < between; i++) {
+            well.spared();
+        }
+        well.move(1, 0);
+        well.months(1);
+        return well.spared();
     }
 }
